@@ -32,6 +32,10 @@ final class Check {
 
     void end() {
         System.out.println(wrong + " of " + looked + " answers are not as due");
+        endIfWrong();
+    }
+
+    void endIfWrong() {
         if (wrong != 0) {
             System.exit(1);
         }
