@@ -2,17 +2,27 @@
 final class Check {
     private int wrong;
     private int looked;
+    private String about = "";
+
+    /** The words of the document by which the answers from here on are due; a wrong answer is told with them. */
+    void sentence(String where, String words) {
+        about = where + ", \"" + words + "\": ";
+    }
 
     void due(String what, long got, long want) {
-        looked++;
-        if (got != want) {
-            wrong++;
-            System.out.println(what + " answered " + got + ", due is " + want);
-        }
+        due(what, Long.toString(got), Long.toString(want));
     }
 
     void due(String what, boolean got, boolean want) {
-        due(what, got ? 1 : 0, want ? 1 : 0);
+        due(what, Boolean.toString(got), Boolean.toString(want));
+    }
+
+    void due(String what, String got, String want) {
+        looked++;
+        if (!got.equals(want)) {
+            wrong++;
+            System.out.println(about + what + " answered " + got + ", due is " + want);
+        }
     }
 
     /** The path of a unit, whole: nothing may come behind it. */
