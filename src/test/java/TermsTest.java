@@ -453,8 +453,9 @@ public final class TermsTest {
         for (int gone = 0; gone < way.length; gone++) {
             field.run(1);
             check.due("step " + gone, field.tile(0), way[gone]);
-            check.due("the end of the path", field.path(0, way.length - gone - 2), gone == way.length - 1 ? -1 : 56);
-            check.due("behind its end", field.path(0, way.length - gone - 1), Scene.BAD);
+            int left = way.length - 1 - gone;
+            check.due("the end of the path", field.path(0, left - 1), left > 0 ? 56 : Scene.BAD);
+            check.due("behind its end", field.path(0, left), Scene.BAD);
         }
         check.due("there", field.order(0), 0);
     }
